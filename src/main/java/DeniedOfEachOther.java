@@ -68,8 +68,18 @@ public final class DeniedOfEachOther {
   }
 
   public int town() {
-    int wrong = letters.misspelt();
-    int told = wrong >= 0 ? -1000 - wrong : tell();
+    int told = letters.spelling();
+    int at = 0;
+    // Told to the mind, so that a FAULT leaves the town as it was.
+    mind.become(now);
+    for (int i = 0; i < MOST_LETTERS && told >= 0 && at < letters.size; i++) {
+      if (letters.tellStatement(at, mind)) {
+        told++;
+        at = letters.behindStatement(at);
+      } else {
+        told = -2000 - at;
+      }
+    }
     letters.size = 0;
     if (told > 0) now.become(mind);
     return told;
@@ -359,7 +369,7 @@ public final class DeniedOfEachOther {
     if (n > MOST_WINTERS || t > 20) return refuseLong(ROOM);
     if (part < 0 || part > 1) return refuseLong(OTHER);
     long likely = 0;
-    for (int cold = 0; cold < 1 << n; cold++) likely += weightIfWritten(topic, n, t, cold);
+    for (int cold = 0; cold < (1 << n); cold++) likely += weightIfWritten(topic, n, t, cold);
     long all = 1;
     for (int i = 0; i < n; i++) all *= t;
     return leastTerms(likely, all, part);
@@ -473,19 +483,6 @@ public final class DeniedOfEachOther {
   }
 
   // ---- what the public calls are made of
-
-  /** Tells the letters to the mind, so that a FAULT leaves the town as it was. */
-  private int tell() {
-    mind.become(now);
-    int statements = 0;
-    int at = 0;
-    for (int i = 0; i < MOST_LETTERS && at < letters.size; i++) {
-      if (!letters.tellStatement(at, mind)) return -2000 - at;
-      at = letters.behindStatement(at);
-      statements++;
-    }
-    return statements;
-  }
 
   private int largestChapter() {
     int who = NONE;
@@ -619,16 +616,16 @@ public final class DeniedOfEachOther {
       return -1;
     }
 
-    /** The place of the first letter with which no TOWN can go on; -1 there is none. */
-    private int misspelt() {
+    /** The FAULT of kind 1; 0 there is none. */
+    private int spelling() {
       int at = 0;
       for (int i = 0; i < MOST_LETTERS; i++) {
         int behind = behindStatement(at);
-        if (behind < 0) return -1 - behind;
-        if (behind >= size) return -1;
+        if (behind < 0) return -999 + behind;
+        if (behind >= size) return 0;
         at = behind;
       }
-      return -1;
+      return 0;
     }
 
     /** The place behind the STATEMENT that begins here; -1 less the place of what is misspelt in it. */
@@ -871,7 +868,7 @@ public final class DeniedOfEachOther {
     private int endOf(int topic) {
       int n = 0;
       while (n <= MOST_YEARS && isWritten(topic)) {
-        passFor(topic, 1);
+        passOne(topic, topic + 1);
         n++;
       }
       return n;

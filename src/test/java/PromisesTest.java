@@ -937,6 +937,8 @@ public final class PromisesTest {
     due(36, "lots(20, 0, 2)", x.lots(20, 0, 2), -2);
     due(36, "lots(20, 0, -1)", x.lots(20, 0, -1), -2);
     due(36, "nothing is changed", x.count(4), 0);
+    DeniedOfEachOther y = town("cw070;cw069;");
+    due(36, "who is 79 behind ten years lives still", y.lots(3, 1, 1), 3);
   }
 
   /** Three draw their words, of whom the first two are left. */
