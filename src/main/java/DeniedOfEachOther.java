@@ -12,6 +12,7 @@ public final class DeniedOfEachOther {
   private static final int MOST_LETTERS = 96;
   private static final int MOST_IN_ROW = 16;
   private static final int GREATEST_IN_ROW = 99;
+  private static final int WITHOUT_SIGN = 0x7fffffff;
 
   private static final int NOTHING = 0;
   private static final int YES = 1;
@@ -840,7 +841,7 @@ public final class DeniedOfEachOther {
         if (!isLiving(i)) continue;
         for (int t = 0; t < TOPICS; t++) {
           z = z * 1664525 + 1013904223;
-          put(i, t, (z & Integer.MAX_VALUE) / 256 % WORDS);
+          put(i, t, (z & WITHOUT_SIGN) / 256 % WORDS);
         }
       }
       return z;

@@ -98,8 +98,16 @@ public final class RulesTest {
     }
     must(!code.contains("->") && !code.contains("::"), "no lambda, no reference to a method");
     must(!Pattern.compile("\"\\s*\\+|\\+\\s*\"").matcher(code).find(), "no text is joined by +");
+    library(code);
     newObjects(code);
     methods(code);
+  }
+
+  /** Of the classes of the library only these functions, which LANGUAGE.md lists; no constants. */
+  private static void library(String code) {
+    Set<String> listed = Set.of("Integer.bitCount(", "Integer.numberOfTrailingZeros(", "Math.min(", "Math.max(", "System.arraycopy(");
+    Matcher uses = Pattern.compile("\\b(Integer|Long|Math|System|Arrays|Character|Object|List|ArrayList|Thread)\\b\\.?\\w*\\(?").matcher(code);
+    while (uses.find()) must(listed.contains(uses.group()), "not of the library that is listed: " + uses.group());
   }
 
   /** Rows are made in constructors alone, so that no call makes an object. */

@@ -195,6 +195,9 @@ public final class ThoughtEdgesTest {
     Due.is("chapter(-1) when nothing is WRITTEN", x.chapter(-1), 0);
     x.dies(0);
     Due.is("chapter(-1) of those who live", x.chapter(-1), 1);
+    Due.says(18, "(0 of the DEAD)");
+    Due.is("chapter(2) of one DEAD who says what is WRITTEN", Due.town("cc000;cc000;cc000;q010;w201;d2;").chapter(2), 0);
+    Due.is("chapter(-1): 0 has none, being DEAD", Due.town("cc000;cc000;cc000;q010;w201;d0;").chapter(-1), 1);
     Due.says(18, "-9 nobody lives");
     for (int i = 1; i <= 4; i++) x.dies(i);
     Due.is("chapter(-1)", x.chapter(-1), -9);
@@ -302,6 +305,13 @@ public final class ThoughtEdgesTest {
     Due.is("heir(1) of who says nothing", Due.town("ch000;cw000;cw000;q120;").heir(1), -9);
     // As a WIDOW the LIAR would not deny it: fewer, not more.
     Due.is("heir(2) of a LIAR", Due.town("cl000;cw000;w001;w101;").heir(2), -9);
+    Due.says(23, "more than else: than as all is now, whatever was asked ahead of it");
+    DeniedOfEachOther asked = Due.town("cw030;cw030;q010;");
+    Due.is("writtenThen(60) of the DEAD", asked.writtenThen(60), 0);
+    Due.is("heir(1) of WIDOWS", asked.heir(1), -9);
+    asked.turn(0, 1, 0);
+    Due.is("lives(0, 1)", asked.lives(0, 1), 0);
+    Due.is("heir(1) of one HIRED since", asked.heir(1), 0);
     Due.says(23, "of several the least (of those who live)");
     Due.is("heir(1)", Due.town("cw000;ch000;ch000;q010;q021;").heir(1), 1);
     Due.is("heir(1) without 1", Due.town("cw000;ch000;ch000;q010;q021;d1;").heir(1), 2);
